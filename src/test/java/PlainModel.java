@@ -452,17 +452,18 @@ final class PlainModel {
     return what == 0 ? comes(much, 0)[row] : set(floods(much, 0));
   }
 
+  private static final int[][] WAYS = {{0, -1}, {1, 0}, {0, 1}, {-1, 0}};
+
   private List<int[]> places(List<Row> rows, int many) {
     List<int[]> places = new ArrayList<>();
-    int[][] ways = {{0, -1}, {1, 0}, {0, 1}, {-1, 0}};
     int way = all.way;
     int x = 0;
     int y = 0;
     places.add(new int[] {x, y});
     for (Row row : rows.subList(0, many)) {
       way = (way + bends(row) + 4) % 4;
-      x += ways[way][0];
-      y += ways[way][1];
+      x += WAYS[way][0];
+      y += WAYS[way][1];
       places.add(new int[] {x, y});
     }
     return places;
@@ -488,9 +489,14 @@ final class PlainModel {
     from(-9, 9, y);
     from(-2, 4, what);
     best = null;
+    int[] end = places(all.rows, all.rows.size()).get(all.rows.size());
+    int way = all.way;
+    for (Row row : all.rows) {
+      way = (way + bends(row) + 4) % 4;
+    }
     for (int n = 0; n <= 5 && best == null; n++) {
       if (all.rows.size() + n <= 15) {
-        tryAll(n, new ArrayList<>(all.rows), new ArrayList<>(), x, y);
+        tryAll(n, new ArrayList<>(), way, x - end[0], y - end[1]);
       }
     }
     if (best == null) {
@@ -499,24 +505,24 @@ final class PlainModel {
     return what == -2 ? best.size() : what == -1 ? bestYarn : what < best.size() ? best.get(what) : -1;
   }
 
-  private void tryAll(int n, List<Row> rows, List<Integer> row, int x, int y) {
+  private void tryAll(int n, List<Integer> row, int way, int acrossLeft, int downLeft) {
     if (n == 0) {
-      int[] end = places(rows, rows.size()).get(rows.size());
-      int yarn = 0;
-      for (Row each : rows.subList(all.rows.size(), rows.size())) {
-        yarn += yarn(each);
-      }
-      if (end[0] == x && end[1] == y && (best == null || yarn < bestYarn)) {
-        best = new ArrayList<>(row);
-        bestYarn = yarn;
+      if (acrossLeft == 0 && downLeft == 0) {
+        int yarn = 0;
+        for (int km : row) {
+          yarn += yarn(new Row(km, 2, 0));
+        }
+        if (best == null || yarn < bestYarn) {
+          best = new ArrayList<>(row);
+          bestYarn = yarn;
+        }
       }
       return;
     }
     for (int km : STITCHES) {
-      rows.add(new Row(km, 2, 0));
+      int goes = (way + bends(new Row(km, 2, 0)) + 4) % 4;
       row.add(km);
-      tryAll(n - 1, rows, row, x, y);
-      rows.remove(rows.size() - 1);
+      tryAll(n - 1, row, goes, acrossLeft - WAYS[goes][0], downLeft - WAYS[goes][1]);
       row.remove(row.size() - 1);
     }
   }
