@@ -991,33 +991,30 @@ public final class KnitRiver {
     }
 
     boolean finds(River river, Course path, int x, int y) {
+      int far = Math.abs(x - path.across[path.rows]) + Math.abs(y - path.down[path.rows]);
+      if (far > Math.min(MOST_STITCHES, MOST_ROWS - path.rows)) {
+        return false;
+      }
       for (int i = 0; i < STITCHES.length; i++) {
         yarns[i] = river.yarnFor(STITCHES[i], 2, 0);
       }
-      int far = Math.abs(x - path.across[path.rows]) + Math.abs(y - path.down[path.rows]);
-      int room = Math.min(MOST_STITCHES, MOST_ROWS - path.rows);
-      // Each stitch is one place further: by less than far, or by one more than that, none leads there.
-      for (int n = far; n <= room; n += 2) {
-        if (findsBy(n, path, x, y)) {
-          return true;
-        }
-      }
-      return false;
-    }
-
-    private boolean findsBy(int n, Course path, int x, int y) {
-      many = n;
+      // Among the stitches there is one for each way, so that as many lead there as it is far.
+      many = far;
       found = -1;
-      for (int row = 0; row < 1 << (2 * n); row++) {
+      for (int row = 0; row < 1 << (2 * many); row++) {
         if (leads(row, path, x, y)) {
-          int takes = yarnOf(row);
-          if (found < 0 || takes < yarn) {
-            found = row;
-            yarn = takes;
-          }
+          keepIfLess(row);
         }
       }
       return found >= 0;
+    }
+
+    private void keepIfLess(int row) {
+      int takes = yarnOf(row);
+      if (found < 0 || takes < yarn) {
+        found = row;
+        yarn = takes;
+      }
     }
 
     private boolean leads(int row, Course path, int x, int y) {

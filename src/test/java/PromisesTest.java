@@ -42,6 +42,7 @@ public final class PromisesTest {
     promise21Reach();
     promise21ReachByYarn();
     promise22Ease();
+    promise22EaseOfAll();
     promise23Odds();
     promise24Fits();
     promise25Voice();
@@ -157,13 +158,7 @@ public final class PromisesTest {
     x.wind(0, 0);
     is("knit: FULL ahead of STATE", x.knit(0, 1, 0), FULL);
     is("knit: BEYOND ahead of FULL", x.knit(0, 13, 0), BEYOND);
-    x.tie(14, 1);
-    x.tie(14, 0);
-    x.tie(13, 1);
-    x.pull(14);
-    x.wind(0, 2);
-    x.knit(0, 1, 0);
-    is("a new row isn't TIED", x.rowIs(14, 4), 0);
+    is("rows", x.count(0), 15);
   }
 
   private static void promise2YarnOfEachKind() {
@@ -176,7 +171,7 @@ public final class PromisesTest {
       is("least YARN of KIND " + kind, new KnitRiver().knit(10 * kind + 9, 1, 9), least[kind]);
     }
     KnitRiver x = of(50);
-    int[] bySeason = {4, 4, 4, 9, 4};
+    int[] bySeason = {4, 4, 4, 9, 4, 4, 4, 9, 4};
     for (int season = 0; season < bySeason.length; season++) {
       is("YARN of FELT in SEASON " + season, x.rowIs(0, 5), bySeason[season]);
       x.season(1);
@@ -487,9 +482,13 @@ public final class PromisesTest {
     means("(3=2)", 0);
     means("(3>2)", 1);
     means("(2>3)", 0);
+    means("(3>3)", 0);
     means("(5|0)", 1);
     means("(0|0)", 0);
     means("(5&2)", 1);
+    means("(1&1)", 1);
+    means("(0&5)", 0);
+    means("(0|5)", 1);
     means("(5&0)", 0);
     means("(1|0&0)", 1);
     means("!5", 0);
@@ -503,6 +502,11 @@ public final class PromisesTest {
     is("ints that wrap: 4999000050 is 704032754", x.law(0, 0, 0, 0), 1);
     text(x, 0, "9999*9999*30>0");
     is("ints that wrap: 2999400030 is below 0", x.law(0, 0, 0, 0), 1);
+    String many = "0" + "*9".repeat(27);
+    is("a long one", text(x, 0, many + "+b*2"), 1);
+    is("its law", x.law(0, 3, 0, 0), 6);
+    is("another long one", text(x, 0, many + "+b*3"), 1);
+    is("its law", x.law(0, 3, 0, 0), 9);
     is("so its law, held", lawOf("9999*9999*30<0"), 1);
     is("so its law, not held", lawOf("(9999*9999*30<0)*7"), 7);
     text(x, 0, "b/t=b");
@@ -581,6 +585,20 @@ public final class PromisesTest {
     is("TENSION more", x.rowIs(1, 3), 1);
     is("nothing comes to THE SEA", x.count(4), 0);
     is("WATER of a plain without ROWS", new KnitRiver().season(7), 0);
+    x = wide(1, 1, 1, 1, 1, 1, 1, 1, 1, 1, 1, 1, 1, 1, 1);
+    x.tense(14, 9);
+    is("season(10) of 15 ROWS", x.season(10), 1 << 14);
+    is("THE SEA", x.count(4), 1);
+    is("TENSION of ROW 14", x.rowIs(14, 3), 8);
+    is("flow(5, 15, 0)", x.flow(5, 15, 0), 2);
+    is("flow(999, 15, 1)", x.flow(999, 15, 1), 1 + (1 << 14));
+    is("ease(100, 1)", x.ease(100, 1), 1);
+    is("odds(0)", x.odds(0), 3);
+    is("course(15, 1)", x.course(15, 1), -15);
+    is("crosses()", x.crosses(), 0);
+    is("reach: no room", x.reach(0, -9, -2), NONE);
+    is("season(0) of 15 ROWS", x.season(0), 0);
+    is("TENSION of ROW 14", x.rowIs(14, 3), 9);
   }
 
   private static void promise15Ends() {
@@ -644,6 +662,10 @@ public final class PromisesTest {
       is("three draws", x.count(8), z);
       is("SEASON", x.count(3), 1);
     }
+    x = wide(12);
+    x.loose(30);
+    is("draws for one ROW", x.count(8), by90Draws());
+    is("one ROW is less WIDE", x.rowIs(0, 2) < 12 ? 1 : 0, 1);
     x = wide(4, 1, 2);
     KnitRiver y = wide(4, 1, 2);
     int any = 0;
@@ -653,6 +675,15 @@ public final class PromisesTest {
     is("loose(30)", y.loose(30), any);
     is("SEASON", y.count(3), 30);
     is("z", y.count(8), x.count(8));
+  }
+
+  /** z by 90 draws. */
+  private static int by90Draws() {
+    int z = 1;
+    for (int i = 0; i < 90; i++) {
+      z = drawn(z);
+    }
+    return z;
   }
 
   private static void promise17Seed() {
@@ -823,6 +854,17 @@ public final class PromisesTest {
     is("ease(1, 1)", x.ease(1, 1), 1);
   }
 
+  private static void promise22EaseOfAll() {
+    KnitRiver x = new KnitRiver();
+    x.wind(0, 9999);
+    text(x, 1, "w*7+k");
+    for (int holds = 90; holds > 75; holds--) {
+      x.knit(10 * (holds % 7), holds / 7, 0);
+    }
+    is("all FLOOD by each number: the least", x.ease(999, 0), -9);
+    is("all FLOOD by each number", x.ease(999, 1), 15);
+  }
+
   private static void odds(KnitRiver x, int above, int below) {
     is("odds(0)", x.odds(0), above);
     is("odds(1)", x.odds(1), below);
@@ -930,6 +972,11 @@ public final class PromisesTest {
     x.become(5, 15);
     is("PARTED in super.parts", x.voice(5, 3, 7), PARTED);
     is("told(6)", x.told(6), 2);
+    x.become(5, 54);
+    voice(x, 5, 3, 7, -7, 13);
+    voice(x, 3, 0, 7, 10, 10);
+    voice(x, 3, 3, 7, 3, 13);
+    voice(x, 5, 0, 7, 12, 10);
     is("voice(7, 0, 0)", x.voice(7, 0, 0), BEYOND);
     is("voice(-1, 0, 0)", x.voice(-1, 0, 0), BEYOND);
     is("voice(0, 4, 0)", x.voice(0, 4, 0), BEYOND);
@@ -983,7 +1030,9 @@ public final class PromisesTest {
     is("judge", x.judge(1), 2);
     x.sheet(1, 8, 2);
     is("all 0 again", x.judge(1), 0);
+    x.tense(0, 5);
     is("all 0 again: TENSIONS", x.tensions(1), 2);
+    is("all 0 again: the first", x.rowIs(0, 3), 0);
   }
 
   private static int asPut(int bits, int v) {
@@ -1033,6 +1082,10 @@ public final class PromisesTest {
     is("move(0, 3, 1, 1, 2)", x.move(0, 3, 1, 1, 2), 2);
     numbers("to another one", x, 1, -1, 4, 5);
     numbers("from one", x, 0, 1, 2, 3, 4, 5);
+    sheet(x, 2, 8, 9, 8, 7);
+    is("all", x.move(2, 0, 1, 0, 3), 3);
+    numbers("all", x, 1, 9, 8, 7);
+    sheet(x, 1, 8, -1, 4, 5);
     is("none at the ends", x.move(0, 5, 1, 3, 0), 0);
     is("move(0, 4, 1, 0, 2)", x.move(0, 4, 1, 0, 2), BEYOND);
     is("move(0, 0, 1, 2, 2)", x.move(0, 0, 1, 2, 2), BEYOND);
@@ -1093,6 +1146,10 @@ public final class PromisesTest {
     is("less numbers than ROWS", x.judge(0), 2);
     x.drop(1);
     is("now", x.judge(0), 1);
+    x = wide(1, 2, 3);
+    x.pull(2);
+    sheet(x, 0, 8, 2, 4, 6);
+    is("not of a ROW that is no more", x.judge(0), 2);
     is("judge(1)", x.judge(1), NONE);
     is("judge(4)", x.judge(4), BEYOND);
     is("judge(-1)", x.judge(-1), BEYOND);
@@ -1123,6 +1180,7 @@ public final class PromisesTest {
     x.seed(5);
     feed(x, "1");
     x.text(0);
+    text(x, 1, "5");
     x.untell(1);
     feed(x, "77777");
     x.check();
@@ -1157,6 +1215,26 @@ public final class PromisesTest {
     x.season(1);
     is("in place of one ahead", x.restore(), 2);
     is("how often isn't of the IMAGE", x.image(), 4);
+    x.pull(0);
+    x.tie(1, 0);
+    x.pull(0);
+    x.knit(69, 12, 9);
+    x.knit(58, 11, 8);
+    x.knit(27, 10, 7);
+    x.tell(1);
+    x.image();
+    int[] then = {6, 9, 12, 9, 0};
+    x.become(0, 31);
+    x.tense(0, 2);
+    x.drop(0);
+    x.tie(0, 1);
+    x.check();
+    x.tell(12);
+    is("restore()", x.restore(), 2);
+    for (int what = 0; what < then.length; what++) {
+      is("restored: rowIs(0, " + what + ")", x.rowIs(0, what), then[what]);
+    }
+    is("restored: what waits", x.check(), 1);
     KnitRiver y = new KnitRiver();
     y.image();
     y.knit(0, 1, 0);
@@ -1193,6 +1271,11 @@ public final class PromisesTest {
       x.tell(wide);
     }
     is("check(): there is no ROW", x.check(), 4);
+    x.pull(2);
+    for (int wide = 4; wide <= 6; wide++) {
+      x.tell(wide);
+    }
+    is("check(): a ROW that is no more", x.check(), 3);
     is("no ERROR", x.told(1), 0);
   }
 
