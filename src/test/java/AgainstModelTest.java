@@ -58,7 +58,7 @@ public final class AgainstModelTest {
       call.append(i == 0 ? "" : ", ").append(a[i]);
     }
     calls.add(call.append(')').toString());
-    due.is(call.toString(), answer(act, a), model.call(act, a));
+    due.is(call.toString(), Acts.answer(river, act, a), model.call(act, a));
   }
 
   private int odd() {
@@ -221,50 +221,6 @@ public final class AgainstModelTest {
       } else {
         s.append(names.charAt(random.nextInt(3)));
       }
-    }
-  }
-
-  private long answer(String act, long[] a) {
-    int p = a.length > 0 ? (int) a[0] : 0;
-    int q = a.length > 1 ? (int) a[1] : 0;
-    int r = a.length > 2 ? (int) a[2] : 0;
-    switch (act) {
-      case "knit": return river.knit(p, q, r);
-      case "rowIs": return river.rowIs(p, q);
-      case "become": return river.become(p, q);
-      case "as": return river.as(p, q);
-      case "tie": return river.tie(p, q);
-      case "drop": return river.drop(p);
-      case "tense": return river.tense(p, q);
-      case "pull": return river.pull(p);
-      case "wind": return river.wind(p, q);
-      case "feed": return river.feed(a[0], q);
-      case "text": return river.text(p);
-      case "untell": return river.untell(p);
-      case "law": return river.law(p, q, r, (int) a[3]);
-      case "season": return river.season(p);
-      case "loose": return river.loose(p);
-      case "seed": return river.seed(p);
-      case "flow": return river.flow(p, q, r);
-      case "course": return river.course(p, q);
-      case "crosses": return river.crosses();
-      case "reach": return river.reach(p, q, r);
-      case "ease": return river.ease(p, q);
-      case "odds": return river.odds(p);
-      case "fits": return river.fits(p, q);
-      case "voice": return river.voice(p, q, r);
-      case "body": return river.body(p);
-      case "sheet": return river.sheet(p, q, r);
-      case "put": return river.put(p, q, r);
-      case "move": return river.move(p, q, r, (int) a[3], (int) a[4]);
-      case "tensions": return river.tensions(p);
-      case "judge": return river.judge(p);
-      case "image": return river.image();
-      case "restore": return river.restore();
-      case "tell": return river.tell(p);
-      case "check": return river.check();
-      case "count": return river.count(p);
-      default: return river.told(p);
     }
   }
 }
