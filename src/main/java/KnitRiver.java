@@ -822,24 +822,26 @@ public final class KnitRiver {
       }
     }
 
-    /** Levels 0 to 4 are T, A, B, S, P of the document; behind them comes Q. */
+    /** Levels 0 to 4 are T, A, B, S, P of the document. */
     private boolean part(int level, int open) {
-      if (level > DEEPEST) {
-        return piece(open);
-      }
-      if (!part(level + 1, open)) {
+      if (!between(level, open)) {
         return false;
       }
       int most = level == COMPARES ? 1 : MOST_BYTES;
       for (int i = 0; i < most && levelOf(next()) == level; i++) {
         int sign = next();
         at++;
-        if (!part(level + 1, open)) {
+        if (!between(level, open)) {
           return false;
         }
         keep(-sign);
       }
       return true;
+    }
+
+    /** What stands between the signs of a level: one of the next level; of the last one Q. */
+    private boolean between(int level, int open) {
+      return level < DEEPEST ? part(level + 1, open) : piece(open);
     }
 
     private static int levelOf(int sign) {

@@ -1,3 +1,4 @@
+import java.io.DataInputStream;
 import java.io.IOException;
 import java.lang.reflect.Constructor;
 import java.lang.reflect.Field;
@@ -25,6 +26,16 @@ public final class LanguageTest {
     "told(int)",
   };
 
+  /** Rule 4, as the compiled class names it: class, method and what it takes and gives. */
+  private static final Pattern LIBRARY = Pattern.compile(
+      "java/lang/Object\\.<init>\\(\\)V"
+          + "|java/lang/(Math|Integer|Long)\\.(?!\\w*Exact\\()\\w+\\([IJ]*\\)[IJZ]"
+          + "|java/lang/System\\.arraycopy\\(.*"
+          + "|java/util/Arrays\\.(copyOf|copyOfRange|fill)\\(\\[[IJSBCZ].*"
+          + "|java/lang/String\\.(length|charAt|isEmpty|equals|indexOf|substring|toCharArray|<init>)\\(.*"
+          + "|java/lang/StringBuilder\\.(<init>|append|charAt|setCharAt|setLength|deleteCharAt|reverse|length|toString)\\(.*"
+          + "|java/util/(ArrayList|List)\\.(<init>|add|get|set|remove|size|isEmpty|clear|iterator|of)\\(.*");
+
   private static final Due DUE = new Due("language");
 
   private LanguageTest() {}
@@ -32,10 +43,12 @@ public final class LanguageTest {
   public static void main(String[] args) throws IOException {
     face();
     members(KnitRiver.class);
+    library(KnitRiver.class);
     DUE.is("at most twelve classes", KnitRiver.class.getDeclaredClasses().length < 12 ? 1 : 0, 1);
     for (Class<?> inside : KnitRiver.class.getDeclaredClasses()) {
       DUE.is(inside + " is static and not public", inside.getModifiers() & (Modifier.STATIC | Modifier.PUBLIC), Modifier.STATIC);
       members(inside);
+      library(inside);
     }
     text(Files.readAllLines(SOURCE, StandardCharsets.UTF_8));
     DUE.end();
@@ -84,11 +97,39 @@ public final class LanguageTest {
     }
   }
 
+  /** Looks at what of other classes a compiled class names in its table of constants (JVM specification, 4.4). */
+  private static void library(Class<?> of) throws IOException {
+    try (DataInputStream in = new DataInputStream(of.getResourceAsStream(of.getName() + ".class"))) {
+      in.skipNBytes(8);
+      int many = in.readUnsignedShort();
+      String[] texts = new String[many];
+      int[][] pairs = new int[many][];
+      int[] tags = new int[many];
+      for (int i = 1; i < many; i++) {
+        tags[i] = in.readUnsignedByte();
+        switch (tags[i]) {
+          case 1: texts[i] = in.readUTF(); break;
+          case 3: case 4: in.skipNBytes(4); break;
+          case 5: case 6: in.skipNBytes(8); i++; break;
+          case 7: case 8: pairs[i] = new int[] {in.readUnsignedShort()}; break;
+          case 9: case 10: case 11: case 12: pairs[i] = new int[] {in.readUnsignedShort(), in.readUnsignedShort()}; break;
+          default: throw new IOException(of + " has a constant of the sort " + tags[i] + ", as lambdas and texts joined by + have");
+        }
+      }
+      for (int i = 1; i < many; i++) {
+        if (tags[i] >= 9 && tags[i] <= 11) {
+          int[] named = pairs[pairs[i][1]];
+          String call = texts[pairs[pairs[i][0]][0]] + "." + texts[named[0]] + texts[named[1]];
+          DUE.is(of + " names " + call, call.startsWith("KnitRiver") || LIBRARY.matcher(call).matches() ? 1 : 0, 1);
+        }
+      }
+    }
+  }
+
   private static void text(List<String> lines) {
     Pattern never = Pattern.compile(
         "\\b(import|package|throw|throws|try|catch|finally|synchronized|assert|volatile|native|transient|var|yield|sealed|"
             + "System\\.(?!arraycopy)\\w+|Thread|Random|\\w+Exact|equals|hashCode|toString|getClass)\\b|->|::|@|[^\\x20-\\x7e]");
-    int from = 0;
     int at = 0;
     for (String line : lines) {
       at++;
@@ -96,13 +137,34 @@ public final class LanguageTest {
       boolean told = code.startsWith("//") || code.startsWith("*") || code.startsWith("/**");
       Matcher matcher = never.matcher(told ? "" : code);
       DUE.is("line " + at + " has what is ruled out: " + line, matcher.find() ? 1 : 0, 0);
-      if (line.matches(" {2,4}[^ /*}].*\\) \\{")) {
-        from = at;
+    }
+    DUE.is("methods and constructors found", methods(lines) > 100 ? 1 : 0, 1);
+  }
+
+  /** Rules 8 and 11 for each method: none is long, none calls itself but a private static one. */
+  private static int methods(List<String> lines) {
+    String indent = "  ";
+    int many = 0;
+    for (int at = 0; at < lines.size(); at++) {
+      String line = lines.get(at);
+      if (line.matches("  \\S.* class .*\\{")) {
+        indent = "    ";
+      } else if (line.equals("  }")) {
+        indent = "  ";
       }
-      if (line.matches(" {2,4}\\}") && from > 0) {
-        DUE.is("the method up to line " + at + " is short", at - from < 60 ? 1 : 0, 1);
-        from = 0;
+      Matcher head = Pattern.compile(indent + "\\w[^=]*?(\\w+)\\(.*\\) \\{").matcher(line);
+      if (head.matches()) {
+        many++;
+        int end = lines.subList(at, lines.size()).indexOf(indent + "}");
+        DUE.is("the method at line " + (at + 1) + " has an end and is short", end > 0 && end < 60 ? 1 : 0, 1);
+        Pattern itself = Pattern.compile("(?<![.\\w])" + head.group(1) + "\\(");
+        for (int i = 1; i < end && !line.contains("private static "); i++) {
+          String inside = lines.get(at + i);
+          DUE.is("line " + (at + i + 1) + " calls its own method: " + inside, itself.matcher(inside).find() ? 1 : 0, 0);
+        }
+        at += Math.max(0, end);
       }
     }
+    return many;
   }
 }
